@@ -590,7 +590,7 @@ public final class RoundStool {
             System.arraycopy(other.moves, 0, moves, 0, other.size);
         }
 
-        boolean append(int move) {
+        boolean add(int move) {
             if (size >= MOST_MOVES) {
                 return false;
             }
@@ -1008,17 +1008,143 @@ public final class RoundStool {
         }
     }
 
-    /** The bytes fed that are no song yet. */
+    /** The bytes fed that are no song yet, and the tokens that they are, the end being the last of these. */
     private static final class Tape {
 
+        static final int THE_END = 0;
+        static final int NO_TOKEN = 1;
+        static final int NUMBER = 2;
+        static final int SEMICOLON = 3;
+        static final int OPENING = 4;
+        static final int CLOSING = 5;
+        static final int LIFT = 6;
+        static final int TO = 7;
+        static final int IF = 8;
+        static final int SWAP = 9;
+        static final int TURN = 10;
+        static final int TIMES = 11;
+
         int length = 0;
-        final byte[] bytes = new byte[MOST_BYTES];
+        int tokens = 0;
+        final int[] kinds = new int[MOST_BYTES + 1];
+        final int[] places = new int[MOST_BYTES + 1];
+        final int[] numbers = new int[MOST_BYTES + 1];
+        private final byte[] bytes = new byte[MOST_BYTES];
 
         void add(int number) {
             for (int shift = 24; shift >= 0 && length < MOST_BYTES; shift -= 8) {
                 bytes[length] = (byte) (number >>> shift);
                 length++;
             }
+        }
+
+        /** All ahead of reading: so what reads a step never waits for signs. */
+        void findTokens() {
+            tokens = 0;
+            int from = 0;
+            while (from < length) {
+                int to = endOfRun(from);
+                if (!isBlank(bytes[from])) {
+                    addToken(kindOfRun(from, to), from, numberOfRun(from, to));
+                }
+                from = to;
+            }
+            addToken(THE_END, length, 0);
+        }
+
+        private void addToken(int kind, int place, int number) {
+            if (tokens <= MOST_BYTES) {
+                kinds[tokens] = kind;
+                places[tokens] = place;
+                numbers[tokens] = number;
+                tokens++;
+            }
+        }
+
+        /** Letters stand together, and digits; each other sign is by itself. */
+        private int endOfRun(int from) {
+            int to = from + 1;
+            if (isLetter(bytes[from])) {
+                while (to < length && isLetter(bytes[to])) {
+                    to++;
+                }
+            } else if (isDigit(bytes[from])) {
+                while (to < length && isDigit(bytes[to])) {
+                    to++;
+                }
+            }
+            return to;
+        }
+
+        private int kindOfRun(int from, int to) {
+            if (isLetter(bytes[from])) {
+                return kindOfWord(from, to);
+            }
+            if (isDigit(bytes[from])) {
+                return to - from <= MOST_DIGITS ? NUMBER : NO_TOKEN;
+            }
+            switch (bytes[from]) {
+                case ';':
+                    return SEMICOLON;
+                case '(':
+                    return OPENING;
+                case ')':
+                    return CLOSING;
+                default:
+                    return NO_TOKEN;
+            }
+        }
+
+        private int kindOfWord(int from, int to) {
+            if (isWord("lift", from, to)) {
+                return LIFT;
+            }
+            if (isWord("to", from, to)) {
+                return TO;
+            }
+            if (isWord("if", from, to)) {
+                return IF;
+            }
+            if (isWord("swap", from, to)) {
+                return SWAP;
+            }
+            if (isWord("turn", from, to)) {
+                return TURN;
+            }
+            return isWord("times", from, to) ? TIMES : NO_TOKEN;
+        }
+
+        private boolean isWord(String word, int from, int to) {
+            if (to - from != word.length()) {
+                return false;
+            }
+            for (int i = 0; i < word.length(); i++) {
+                if (bytes[from + i] != word.charAt(i)) {
+                    return false;
+                }
+            }
+            return true;
+        }
+
+        /** Of a run that is no number, or too long for one, nobody asks it. */
+        private int numberOfRun(int from, int to) {
+            int number = 0;
+            for (int i = from; i < to && isDigit(bytes[i]) && i - from < MOST_DIGITS; i++) {
+                number = number * 10 + bytes[i] - '0';
+            }
+            return number;
+        }
+
+        private static boolean isBlank(int sign) {
+            return sign == ' ' || sign == '\n';
+        }
+
+        private static boolean isLetter(int sign) {
+            return (sign >= 'a' && sign <= 'z') || (sign >= 'A' && sign <= 'Z');
+        }
+
+        private static boolean isDigit(int sign) {
+            return sign >= '0' && sign <= '9';
         }
     }
 
@@ -1030,29 +1156,16 @@ public final class RoundStool {
         private static final int TOO_DEEP = 3;
         private static final int TOO_MANY = 4;
 
-        private static final int THE_END = 0;
-        private static final int NO_TOKEN = 1;
-        private static final int NUMBER = 2;
-        private static final int SEMICOLON = 3;
-        private static final int OPENING = 4;
-        private static final int CLOSING = 5;
-        private static final int LIFT = 6;
-        private static final int TO = 7;
-        private static final int IF = 8;
-        private static final int SWAP = 9;
-        private static final int TURN = 10;
-        private static final int TIMES = 11;
-
         int fault = 0;
         int place = NONE;
         final Tape tape = new Tape();
         final Song draft = new Song();
 
-        private int next = 0;
-        private int token = THE_END;
-        private int tokenPlace = 0;
-        private int number = 0;
         private int slots = SLOTS_AT_FIRST;
+        /** The token that was taken last, and what it is. */
+        private int taken = NONE;
+        private int kind = Tape.THE_END;
+        private int number = 0;
         private boolean tooMany = false;
         private int open = 0;
         private final int[] bodyStart = new int[MOST_OPEN];
@@ -1064,28 +1177,68 @@ public final class RoundStool {
         }
 
         boolean read(int slotsThere) {
+            tape.findTokens();
             slots = slotsThere;
-            next = 0;
+            taken = NONE;
             draft.size = 0;
             tooMany = false;
             open = 0;
-            // A step takes a byte at least, so the end comes behind no more steps than bytes.
-            for (int steps = 0; steps <= tape.length; steps++) {
-                takeToken();
-                if (token == THE_END) {
+            boolean goesOn = true;
+            // A step takes a token at least, so there are no more steps than tokens.
+            for (int step = 0; step < tape.tokens && goesOn; step++) {
+                take();
+                if (kind == Tape.THE_END) {
                     return readEnd();
                 }
-                if (!readStep()) {
-                    return false;
+                switch (kind) {
+                    case Tape.LIFT:
+                        goesOn = readLift();
+                        break;
+                    case Tape.SWAP:
+                        goesOn = readSwap();
+                        break;
+                    case Tape.TURN:
+                        goesOn = readTurn();
+                        break;
+                    case Tape.TIMES:
+                        goesOn = readTimes();
+                        break;
+                    case Tape.CLOSING:
+                        goesOn = readClosing();
+                        break;
+                    default:
+                        goesOn = fail(CANT_STAND);
+                        break;
                 }
             }
             return false;
         }
 
-        private boolean fail(int kind) {
-            fault = kind;
-            place = tokenPlace;
+        private boolean fail(int faultKind) {
+            fault = faultKind;
+            place = tape.places[taken];
             return false;
+        }
+
+        /** Behind the end nothing but the end is taken. */
+        private void take() {
+            if (taken < tape.tokens - 1) {
+                taken++;
+            }
+            kind = tape.kinds[taken];
+            number = tape.numbers[taken];
+        }
+
+        private boolean readToken(int due) {
+            take();
+            return kind == due || fail(CANT_STAND);
+        }
+
+        private boolean readNumber(int least, int most) {
+            if (!readToken(Tape.NUMBER)) {
+                return false;
+            }
+            return (number >= least && number <= most) || fail(BEYOND_BOUNDS);
         }
 
         private boolean readEnd() {
@@ -1095,29 +1248,12 @@ public final class RoundStool {
             return !tooMany || fail(TOO_MANY);
         }
 
-        private boolean readStep() {
-            switch (token) {
-                case LIFT:
-                    return readLift();
-                case SWAP:
-                    return readSwap();
-                case TURN:
-                    return readTurn();
-                case TIMES:
-                    return readTimes();
-                case CLOSING:
-                    return readClosing();
-                default:
-                    return fail(CANT_STAND);
-            }
-        }
-
         private boolean readLift() {
             if (!readNumber(0, slots - 1)) {
                 return false;
             }
             int a = number;
-            if (!readToken(TO) || !readNumber(0, slots - 1)) {
+            if (!readToken(Tape.TO) || !readNumber(0, slots - 1)) {
                 return false;
             }
             return readAsked(Move.LIFT, a, number);
@@ -1131,12 +1267,29 @@ public final class RoundStool {
             return readNumber(0, slots - 1) && readAsked(Move.SWAP, a, number);
         }
 
+        private boolean readAsked(int moveKind, int a, int b) {
+            int asked = NONE;
+            take();
+            if (kind == Tape.IF) {
+                if (!readNumber(0, COLOURS - 1)) {
+                    return false;
+                }
+                asked = number;
+                take();
+            }
+            if (kind != Tape.SEMICOLON) {
+                return fail(CANT_STAND);
+            }
+            append(Move.packed(moveKind, a, b, asked));
+            return true;
+        }
+
         private boolean readTurn() {
             if (!readNumber(0, MOST_TURN)) {
                 return false;
             }
             int k = number;
-            if (!readToken(SEMICOLON)) {
+            if (!readToken(Tape.SEMICOLON)) {
                 return false;
             }
             append(Move.packed(Move.TURN, k, 0, NONE));
@@ -1153,7 +1306,7 @@ public final class RoundStool {
             repeats[open] = number;
             bodyStart[open] = draft.size;
             open++;
-            return readToken(OPENING);
+            return readToken(Tape.OPENING);
         }
 
         private boolean readClosing() {
@@ -1170,118 +1323,11 @@ public final class RoundStool {
             return true;
         }
 
-        private boolean readAsked(int kind, int a, int b) {
-            int asked = NONE;
-            takeToken();
-            if (token == IF) {
-                if (!readNumber(0, COLOURS - 1)) {
-                    return false;
-                }
-                asked = number;
-                takeToken();
-            }
-            if (token != SEMICOLON) {
-                return fail(CANT_STAND);
-            }
-            append(Move.packed(kind, a, b, asked));
-            return true;
-        }
-
         /** Too many moves are a fault of the end alone: whatever else is wrong ahead of it comes first. */
         private void append(int move) {
-            if (!draft.append(move)) {
+            if (!draft.add(move)) {
                 tooMany = true;
             }
-        }
-
-        private boolean readToken(int due) {
-            takeToken();
-            return token == due || fail(CANT_STAND);
-        }
-
-        private boolean readNumber(int least, int most) {
-            if (!readToken(NUMBER)) {
-                return false;
-            }
-            return (number >= least && number <= most) || fail(BEYOND_BOUNDS);
-        }
-
-        private void takeToken() {
-            while (next < tape.length && isBlank(tape.bytes[next])) {
-                next++;
-            }
-            tokenPlace = next;
-            if (next >= tape.length) {
-                token = THE_END;
-            } else if (isLetter(tape.bytes[next])) {
-                takeWord();
-            } else if (isDigit(tape.bytes[next])) {
-                takeDigits();
-            } else {
-                token = tokenOfSign(tape.bytes[next]);
-                next++;
-            }
-        }
-
-        private void takeWord() {
-            while (next < tape.length && isLetter(tape.bytes[next])) {
-                next++;
-            }
-            token = NO_TOKEN;
-            token = isWord("lift") ? LIFT : token;
-            token = isWord("to") ? TO : token;
-            token = isWord("if") ? IF : token;
-            token = isWord("swap") ? SWAP : token;
-            token = isWord("turn") ? TURN : token;
-            token = isWord("times") ? TIMES : token;
-        }
-
-        private boolean isWord(String word) {
-            if (next - tokenPlace != word.length()) {
-                return false;
-            }
-            for (int i = 0; i < word.length(); i++) {
-                if (tape.bytes[tokenPlace + i] != word.charAt(i)) {
-                    return false;
-                }
-            }
-            return true;
-        }
-
-        private void takeDigits() {
-            number = 0;
-            while (next < tape.length && isDigit(tape.bytes[next])) {
-                if (next - tokenPlace < MOST_DIGITS) {
-                    number = number * 10 + tape.bytes[next] - '0';
-                }
-                next++;
-            }
-            token = next - tokenPlace <= MOST_DIGITS ? NUMBER : NO_TOKEN;
-        }
-
-        private static int tokenOfSign(int sign) {
-            switch (sign) {
-                case ';':
-                    return SEMICOLON;
-                case '(':
-                    return OPENING;
-                case ')':
-                    return CLOSING;
-                default:
-                    return NO_TOKEN;
-            }
-        }
-
-        private static boolean isBlank(int sign) {
-            return sign == ' ' || sign == '\n';
-        }
-
-        private static boolean isLetter(int sign) {
-            return (sign >= 'a' && sign <= 'z') || (sign >= 'A' && sign <= 'Z');
-        }
-
-        private static boolean isDigit(int sign) {
-            return sign >= '0' && sign <= '9';
         }
     }
 }

@@ -324,6 +324,14 @@ public final class PromiseTest {
         faulty("lifto 1;", 1, 0);
         faulty("liftX 0 to 1;", 1, 0);
         faulty("LIFT 0 to 1;", 1, 0);
+        for (String letter : new String[] {"a", "z", "A", "Z"}) {
+            faulty("turn" + letter + " 1;", 1, 0);
+        }
+        for (String sign : new String[] {"@", "[", "`", "{", "/", ":", "-", "\0", "\u00ff"}) {
+            faulty("turn" + sign + "1;", 1, 4);
+            faulty("turn 1" + sign + ";", 1, 6);
+        }
+        faulty("turn 1a;", 1, 6);
         faulty(" ;", 1, 1);
         faulty("5", 1, 0);
         faulty("to", 1, 0);
@@ -423,12 +431,19 @@ public final class PromiseTest {
         x.slip(563);
         due("563 is not below 563", x.sing(0, 1), 1);
         x.state(0);
+        x.slip(1);
+        x.sing(0, 1);
+        due("drawn from slip 1 on", x.look(4), once);
+        x.state(0);
         x.slip(564);
+        int rows = x.look(2);
+        int over = x.over(x.at(0, 0), x.at(1, 0));
+        int moved = x.of(x.at(0, 0), 2);
         due("but below 564", x.sing(0, 1), 0);
-        due("not made: no row", x.look(2), 1);
-        due("not sung", x.look(3), 1);
-        due("nobody over", x.over(1, 0), 0);
-        due("not moved", x.of(1, 2), 0);
+        due("not made: no row", x.look(2), rows);
+        due("not sung", x.look(3), rows);
+        due("nobody over", x.over(x.at(0, 0), x.at(1, 0)), over);
+        due("not moved", x.of(x.at(0, 0), 2), moved);
     }
 
     private static void at() {
@@ -550,29 +565,17 @@ public final class PromiseTest {
         longBack();
     }
 
-    /** Colours asked count like wheels: this one comes back late. */
+    /** Songs that ask colours may come back late: these behind 63, 5040 and 5050 singings. */
     private static void longBack() {
-        RoundStool x = new RoundStool();
-        x.stool(16);
+        RoundStool x = with(16, "lift 0 to 6;lift 7 to 15;", "turn 12;lift 4 to 13 if 3;lift 10 to 14;turn 13;lift 11 to 15;",
+            "lift 5 to 13 if 0;turn 2;turn 14;lift 15 to 5;lift 11 to 4;turn 11;");
         colours(x, 1, 0, 0, 0, 0, 0, 0, 2, 0, 0, 0, 0, 0, 0, 0, 0);
-        tell(x, 0, "lift 0 to 6;lift 7 to 15;");
         due("7 and 9", x.back(0, 0), 63);
         due("7 and 9", x.back(0, 1), 63);
-        tell(x, 0, "lift 0 to 6;lift 7 to 15 if 0;");
-        int due = NONE;
-        RoundStool y = new RoundStool();
-        y.stool(16);
-        colours(y, 1, 0, 0, 0, 0, 0, 0, 2, 0, 0, 0, 0, 0, 0, 0, 0);
-        tell(y, 0, "lift 0 to 6;lift 7 to 15 if 0;");
-        for (int n = 1; n <= 100 && due == NONE; n++) {
-            y.sing(0, 1);
-            boolean same = true;
-            for (int s = 0; s < 16; s++) {
-                same &= y.at(s, 0) == s;
-            }
-            due = same ? n : NONE;
-        }
-        due("as sung", x.back(0, 0), due);
+        colours(x, 3, 0, 0, 0, 0, 2, 3, 1, 0, 1, 2, 1, 2, 0, 1, 0);
+        due("5040", x.back(1, 0), 5040);
+        colours(x, 1, 2, 2, 1, 0, 2, 0, 1, 0, 2, 1, 0, 2, 1, 2, 1);
+        due("5050", x.back(2, 0), NONE);
     }
 
     private static void where() {
