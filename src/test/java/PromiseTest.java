@@ -16,6 +16,7 @@ public final class PromiseTest {
         feed();
         end();
         text();
+        fullTapes();
         fault();
         sing();
         singSlipping();
@@ -279,6 +280,31 @@ public final class PromiseTest {
         due("text", x.text(0), 1);
         due("0", x.end(0), true);
         due("1", x.end(1), false);
+        tape(x, "turn 16;");
+        x.end(6);
+        due("what is gone is no part of a number", x.text(0), NONE);
+        due("its fault", x.fault(0), 1);
+        due("its place", x.fault(1), 6);
+        tape(x, "turn 1;turnx");
+        x.end(11);
+        due("nor of a word", x.text(0), NONE);
+        due("its place", x.fault(1), 11);
+    }
+
+    /** Tapes of 400 bytes: as many tokens as can be, and runs that go up to the last byte. */
+    private static void fullTapes() {
+        promise = 8;
+        faulty(";".repeat(400), 1, 0);
+        faulty("1".repeat(400), 1, 0);
+        faulty("z".repeat(400), 1, 0);
+        faulty(" ".repeat(396) + "turn", 1, 400);
+        faulty(" ".repeat(394) + "turn 1", 1, 400);
+        faulty(" ".repeat(393) + "turn 16", 2, 398);
+        moves(" ".repeat(393) + "turn 1;", 1);
+        moves("\n".repeat(400), 0);
+        moves("times 1()".repeat(44) + "    ", 0);
+        moves("turn1;".repeat(66) + "\n\n\n ", 66);
+        moves("swap 0 1;".repeat(44) + "    ", 44);
     }
 
     private static void text() {
