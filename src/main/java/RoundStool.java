@@ -1041,13 +1041,15 @@ public final class RoundStool {
         /** All ahead of reading: so what reads a step never waits for signs. */
         void findTokens() {
             tokens = 0;
-            int from = 0;
-            while (from < length) {
-                int to = endOfRun(from);
-                if (!isBlank(bytes[from])) {
-                    addToken(kindOfRun(from, to), from, numberOfRun(from, to));
+            int next = 0;
+            for (int from = 0; from < length; from++) {
+                // Signs ahead of next are part of a run that is a token already.
+                if (from == next) {
+                    next = endOfRun(from);
+                    if (!isBlank(bytes[from])) {
+                        addToken(kindOfRun(from, next), from, numberOfRun(from, next));
+                    }
                 }
-                from = to;
             }
             addToken(THE_END, length, 0);
         }

@@ -1,11 +1,5 @@
 /** Each promise of the document by its number: ordinary inputs, the edges it names, and wrong inputs. */
-public final class PromiseTest {
-
-    private static final int NONE = RoundStool.NONE;
-
-    private static int promise = 0;
-    private static int passed = 0;
-    private static int failed = 0;
+public final class PromiseTest extends Checks {
 
     public static void main(String[] args) {
         newObject();
@@ -40,89 +34,27 @@ public final class PromiseTest {
         undo();
         image();
         look();
-        System.out.println(passed + " passed, " + failed + " failed");
-        if (failed > 0) {
-            System.exit(1);
-        }
+        finish("PromiseTest");
     }
 
     // ---- helpers
 
-    private static void due(String what, int got, int want) {
-        if (got == want) {
-            passed++;
-        } else {
-            failed++;
-            System.out.println("promise " + promise + ": " + what + " answered " + got + ", due is " + want);
-        }
-    }
-
-    private static void due(String what, boolean got, boolean want) {
-        due(what, got ? 1 : 0, want ? 1 : 0);
-    }
-
-    private static void tape(RoundStool x, String text) {
-        for (int i = 0; i < text.length(); i += 20) {
-            int[] v = new int[5];
-            for (int j = 0; j < 20; j++) {
-                int sign = i + j < text.length() ? text.charAt(i + j) : 0;
-                v[j / 4] = (v[j / 4] << 8) | sign;
-            }
-            x.feed(v[0], v[1], v[2], v[3], v[4]);
-        }
-        x.end(text.length());
-    }
-
-    private static int tell(RoundStool x, int k, String text) {
-        tape(x, text);
-        return x.text(k);
-    }
-
-    private static RoundStool with(int n, String... songs) {
-        RoundStool x = new RoundStool();
-        x.stool(n);
-        for (int k = 0; k < songs.length; k++) {
-            due("text " + songs[k], tell(x, k, songs[k]) >= 0, true);
-        }
-        return x;
-    }
-
-    private static void colours(RoundStool x, int... c) {
-        for (int s = 0; s < c.length; s++) {
-            x.colour(s, c[s]);
-        }
-    }
-
-    private static void wants(RoundStool x, int... c) {
-        for (int s = 0; s < c.length; s++) {
-            x.want(s, c[s]);
-        }
-    }
-
-    private static void strands(String what, RoundStool x, int... strands) {
-        for (int s = 0; s < strands.length; s++) {
-            due(what + ": at " + s, x.at(s, 0), strands[s]);
-        }
+    private static void promise(int number) {
+        about("promise " + number);
     }
 
     private static void faulty(String text, int kind, int place) {
-        RoundStool x = new RoundStool();
-        due("'" + text + "'", tell(x, 0, text), NONE);
-        due("fault of '" + text + "'", x.fault(0), kind);
-        due("place of '" + text + "'", x.fault(1), place);
+        faulty(new RoundStool(), text, kind, place);
     }
 
     private static void moves(String text, int count) {
-        RoundStool x = new RoundStool();
-        due("'" + text + "'", tell(x, 0, text), count);
-        due("fault of '" + text + "'", x.fault(0), 0);
-        due("place of '" + text + "'", x.fault(1), NONE);
+        moves(new RoundStool(), text, count);
     }
 
     // ---- the promises
 
     private static void newObject() {
-        promise = 1;
+        promise(1);
         RoundStool x = new RoundStool();
         for (int s = 0; s < 8; s++) {
             due("strand at " + s, x.at(s, 0), s);
@@ -146,7 +78,7 @@ public final class PromiseTest {
     }
 
     private static void state() {
-        promise = 2;
+        promise(2);
         RoundStool x = with(8, "swap 0 1;");
         due("first", x.state(7), 0);
         due("second", x.state(-5), 7);
@@ -159,7 +91,7 @@ public final class PromiseTest {
     }
 
     private static void stool() {
-        promise = 3;
+        promise(3);
         RoundStool x = with(8, "swap 0 1;", "turn 2;");
         x.state(9);
         colours(x, 1, 2, 3);
@@ -207,7 +139,7 @@ public final class PromiseTest {
     }
 
     private static void colour() {
-        promise = 4;
+        promise(4);
         RoundStool x = with(5, "lift 0 to 4;");
         due("9", x.colour(4, 9), true);
         due("by strand", x.of(4, 1), 9);
@@ -234,7 +166,7 @@ public final class PromiseTest {
     }
 
     private static void slip() {
-        promise = 5;
+        promise(5);
         RoundStool x = with(8, "swap 0 1;");
         due("1000", x.slip(1000), true);
         due("look", x.look(1), 1000);
@@ -249,7 +181,7 @@ public final class PromiseTest {
     }
 
     private static void feed() {
-        promise = 6;
+        promise(6);
         RoundStool x = new RoundStool();
         for (int i = 1; i <= 20; i++) {
             due("feed " + i, x.feed(0x20202020, 0x0A0A0A0A, 0x20202020, 0x20202020, 0x20202020), 20 * i);
@@ -267,7 +199,7 @@ public final class PromiseTest {
     }
 
     private static void end() {
-        promise = 7;
+        promise(7);
         RoundStool x = new RoundStool();
         due("0 of 0", x.end(0), true);
         due("1 of 0", x.end(1), false);
@@ -293,7 +225,7 @@ public final class PromiseTest {
 
     /** Tapes of 400 bytes: as many tokens as can be, and runs that go up to the last byte. */
     private static void fullTapes() {
-        promise = 8;
+        promise(8);
         faulty(";".repeat(400), 1, 0);
         faulty("1".repeat(400), 1, 0);
         faulty("z".repeat(400), 1, 0);
@@ -308,7 +240,7 @@ public final class PromiseTest {
     }
 
     private static void text() {
-        promise = 8;
+        promise(8);
         moves("", 0);
         moves(" \n ", 0);
         moves("lift 0 to 7;", 1);
@@ -345,7 +277,7 @@ public final class PromiseTest {
     }
 
     private static void fault() {
-        promise = 9;
+        promise(9);
         faulty("lyft 0 to 1;", 1, 0);
         faulty("lifto 1;", 1, 0);
         faulty("liftX 0 to 1;", 1, 0);
@@ -408,7 +340,7 @@ public final class PromiseTest {
     }
 
     private static void sing() {
-        promise = 10;
+        promise(10);
         RoundStool x = with(6, "lift 1 to 4;", "lift 4 to 1;", "turn 1;lift 2 to 2;swap 0 5;", "swap 3 3;lift 0 to 1 if 7;");
         due("song 4", x.sing(4, 1), NONE);
         due("song -1", x.sing(-1, 1), NONE);
@@ -473,7 +405,7 @@ public final class PromiseTest {
     }
 
     private static void at() {
-        promise = 11;
+        promise(11);
         RoundStool x = with(5, "lift 0 to 4;");
         colours(x, 5, 6, 7, 8, 9);
         x.sing(0, 1);
@@ -488,7 +420,7 @@ public final class PromiseTest {
     }
 
     private static void of() {
-        promise = 12;
+        promise(12);
         RoundStool x = with(5, "lift 0 to 4;swap 4 1;lift 2 to 2;");
         colours(x, 5, 6, 7, 8, 9);
         x.sing(0, 1);
@@ -506,7 +438,7 @@ public final class PromiseTest {
     }
 
     private static void over() {
-        promise = 13;
+        promise(13);
         RoundStool x = with(6, "lift 4 to 1;", "swap 0 5;", "turn 3;", "lift 2 to 2;");
         x.sing(0, 1);
         due("down: 1", x.over(4, 1), 1);
@@ -539,7 +471,7 @@ public final class PromiseTest {
     }
 
     private static void outside() {
-        promise = 14;
+        promise(14);
         RoundStool x = with(4, "lift 0 to 3;turn 1;swap 2 2;lift 1 to 0 if 9;", "times 8(lift 0 to 3;)");
         colours(x, 5, 6, 7, 8);
         x.sing(0, 1);
@@ -566,7 +498,7 @@ public final class PromiseTest {
     }
 
     private static void back() {
-        promise = 15;
+        promise(15);
         RoundStool x = with(8, "lift 0 to 3;", "swap 0 1 if 1;", "turn 2;", "");
         due("strands", x.back(0, 0), 4);
         due("colours", x.back(0, 1), 1);
@@ -605,7 +537,7 @@ public final class PromiseTest {
     }
 
     private static void where() {
-        promise = 16;
+        promise(16);
         RoundStool x = with(8, "lift 0 to 3;", "turn 3;", "lift 0 to 7 if 2;", "swap 0 2;");
         due("0 singings", x.where(0, 5, 0, false), 5);
         due("1", x.where(0, 0, 1, false), 3);
@@ -638,7 +570,7 @@ public final class PromiseTest {
     }
 
     private static void want() {
-        promise = 17;
+        promise(17);
         RoundStool x = with(5, "swap 0 1;");
         x.sing(0, 1);
         due("9", x.want(4, 9), true);
@@ -655,7 +587,7 @@ public final class PromiseTest {
     }
 
     private static void fewest() {
-        promise = 18;
+        promise(18);
         RoundStool x = with(7, "lift 0 to 6;");
         due("nothing to do", x.fewest(0), 0);
         due("no first", x.fewest(1), NONE);
@@ -692,7 +624,7 @@ public final class PromiseTest {
     }
 
     private static void cut() {
-        promise = 19;
+        promise(19);
         RoundStool x = with(4, "lift 0 to 3;", "turn 1;", "swap 0 1 if 1;", "turn 0;");
         colours(x, 1, 0, 0, 0);
         wants(x, 1, 0, 0, 0);
@@ -721,7 +653,7 @@ public final class PromiseTest {
     }
 
     private static void dropped() {
-        promise = 20;
+        promise(20);
         RoundStool x = with(4, "lift 0 to 3;", "turn 1;", "lift 0 to 2 if 1;");
         colours(x, 1, 2, 3, 4);
         wants(x, 1, 2, 3, 4);
@@ -757,7 +689,7 @@ public final class PromiseTest {
     }
 
     private static void beats() {
-        promise = 21;
+        promise(21);
         RoundStool x = with(8, "swap 0 1;swap 2 3;swap 4 5;swap 6 7;", "lift 0 to 4;turn 5;swap 2 6 if 9;lift 1 to 3;", "turn 1;",
             "lift 0 to 7;lift 3 to 3;swap 1 5;lift 2 to 4;lift 3 to 6;");
         due("9 monks", x.beats(0, 9), 1);
@@ -784,7 +716,7 @@ public final class PromiseTest {
     }
 
     private static void name() {
-        promise = 22;
+        promise(22);
         RoundStool x = with(8, "swap 0 1;");
         x.sing(0, 1);
         due("0", x.name(0, 0), true);
@@ -802,7 +734,7 @@ public final class PromiseTest {
     }
 
     private static void lay() {
-        promise = 23;
+        promise(23);
         RoundStool x = with(4, "lift 0 to 3 if 9;", "turn 1;", "turn 1;swap 0 0;");
         due("no name", x.lay(1), 0);
         x.name(0, 5);
@@ -837,7 +769,7 @@ public final class PromiseTest {
     }
 
     private static void pulled() {
-        promise = 24;
+        promise(24);
         RoundStool x = with(5, "lift 2 to 0;", "swap 0 1;", "lift 4 to 3;");
         x.sing(0, 1);
         due("all", x.pulled(NONE), 5);
@@ -860,7 +792,7 @@ public final class PromiseTest {
     }
 
     private static void loops() {
-        promise = 25;
+        promise(25);
         RoundStool x = with(6, "lift 0 to 2;", "swap 3 4;", "turn 1;");
         due("six", x.loops(NONE), 6);
         x.sing(0, 1);
@@ -881,7 +813,7 @@ public final class PromiseTest {
     }
 
     private static void alike() {
-        promise = 26;
+        promise(26);
         RoundStool x = with(6, "swap 0 1;", "lift 0 to 1;", "lift 1 to 0;", "swap 0 1 if 3;");
         due("swap and lift", x.alike(0, 1), 2);
         due("the other one over", x.alike(0, 2), 1);
@@ -903,7 +835,7 @@ public final class PromiseTest {
     }
 
     private static void period() {
-        promise = 27;
+        promise(27);
         RoundStool x = with(4, "lift 0 to 2;", "lift 3 to 3;");
         due("no rows", x.period(0), 0);
         due("no rows", x.period(1), 0);
@@ -929,7 +861,7 @@ public final class PromiseTest {
     }
 
     private static void undo() {
-        promise = 28;
+        promise(28);
         RoundStool x = with(5, "lift 0 to 3;swap 4 1;", "");
         x.slip(300);
         x.state(77);
@@ -992,7 +924,7 @@ public final class PromiseTest {
     }
 
     private static void image() {
-        promise = 29;
+        promise(29);
         RoundStool x = with(5, "lift 0 to 3;", "turn 1;");
         x.sing(0, 1);
         due("none", x.image(false), false);
@@ -1049,7 +981,7 @@ public final class PromiseTest {
     }
 
     private static void look() {
-        promise = 30;
+        promise(30);
         RoundStool x = with(6, "swap 0 1;", "turn 1;turn 1;", "times 3(turn 1;)", "times 4(turn 1;)");
         x.slip(1);
         x.state(-7);
