@@ -240,6 +240,8 @@ abstract class BoundaryBack extends Sentences {
             }
             x.state(-1);
             x.slip(0);
+            tell(x, 3, "times 3(swap 4 4;swap 2 2;)");
+            x.sing(3, 1);
             due("gone back to", x.image(false), true);
             due("all", seen(x), before);
             RoundStool y = new RoundStool();

@@ -79,6 +79,14 @@ abstract class BoundaryMaker extends Sentences {
             due("row 1 is the next", x.lay(0), 1);
             x.colour(3, 6);
             due("of strand 3", x.lay(0), 0);
+            songs(x, "swap 0 2;swap 0 2;", "times 5(times 5(times 8(lift 0 to 3;)))", "times 5(times 6(lift 0 to 3;))lift 1 to 1;");
+            colours(x, 5, 0, 6, 0);
+            due("swaps: 0, then 2", x.lay(0), 0);
+            colours(x, 5, 6, 7, 0);
+            due("lifts: 0, then 1, of 200 in one singing", x.lay(1), 0);
+            x.name(29, 6);
+            due("row 29 is 1 again", x.lay(1), 0);
+            due("also with 31 rows in one singing", x.lay(2), 0);
         });
         sentence(23, "without asking COLOURS (each if taken as so)", x -> {
             x.stool(4);

@@ -162,9 +162,8 @@ abstract class BoundaryStool extends Sentences {
             fill(x);
             int state = x.look(4);
             x.image(true);
-            due("the same N", x.stool(5), true);
+            due("N as at first", x.stool(8), true);
             RoundStool fresh = new RoundStool();
-            fresh.stool(5);
             fresh.state(state);
             due("all", seen(x), seen(fresh));
             due("fault", x.fault(0), 2);
@@ -172,6 +171,9 @@ abstract class BoundaryStool extends Sentences {
             due("the tape", x.text(0), 1);
             due("the image", x.image(false), true);
             due("of the image", x.look(20), 9);
+            due("the same N", x.stool(5), true);
+            due("SLIP", x.look(1), 0);
+            due("WANT", x.look(20), 0);
         });
         sentence(3, "told anew: all is as at first", x -> {
             x.stool(16);

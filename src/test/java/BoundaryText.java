@@ -60,6 +60,13 @@ abstract class BoundaryText extends Sentences {
             tape(x, " ".repeat(380));
             due("380 and 20 are no more", x.feed(0x7475726E, 0x20313B74, 0x75726E20, 0x323B7475, 0x726E313B), 400);
             due("all of them count", x.text(0), 3);
+            faulty(x, ";".repeat(400), 1, 0);
+            faulty(x, "1".repeat(400), 1, 0);
+            faulty(x, "t".repeat(400), 1, 0);
+            faulty(x, " ".repeat(399) + "1", 1, 399);
+            faulty(x, " ".repeat(394) + "turn 1", 1, 400);
+            faulty(x, " ".repeat(393) + "turn 16", 2, 398);
+            moves(x, "times 1()".repeat(44) + "    ", 0);
         });
     }
 
@@ -79,6 +86,15 @@ abstract class BoundaryText extends Sentences {
             due("others come behind", x.text(0), 1);
             x.sing(0, 1);
             due("turn 1;", x.of(0, 0), 1);
+            tape(x, "turn 16;");
+            x.end(6);
+            due("what is gone is no part of a number", x.text(0), NONE);
+            due("the end can't stand there", x.fault(0), 1);
+            due("its place", x.fault(1), 6);
+            tape(x, "turn 1;turnx");
+            x.end(11);
+            due("nor of a word", x.text(0), NONE);
+            due("its place", x.fault(1), 11);
         });
         sentence(7, "false, changing nothing, if it has not so many, or n is below 0.", x -> {
             due("1 of none", x.end(1), false);
@@ -109,6 +125,23 @@ abstract class BoundaryText extends Sentences {
             due("empty behind a fault, too", x.end(1), false);
             tell(x, 4, "turn 1;");
             due("and behind no such song", x.end(1), false);
+        });
+        sentence(8, "The TAPE, empty then, is SONG k", x -> {
+            songs(x, "turn 1;lift 0 to 7;", "turn 1;lift 0 to 7;");
+            tell(x, 0, "turn 2;");
+            tell(x, 1, "");
+            due("nothing stays of the longer one", x.where(0, 0, 1, false), 2);
+            due("nor in the mirror", x.where(0, 0, 1, true), 6);
+            due("nor in an empty one", x.where(1, 0, 1, false) + x.where(1, 0, 1, true), 0);
+            due("nor by singing", x.sing(0, 1) + x.sing(1, 1), 0);
+            due("where", x.at(2, 0), 0);
+            due("back", x.back(0, 0), 4);
+            due("no beats", x.beats(0, 1), 0);
+            due("alike but for the turn", x.alike(0, 1), 0);
+            x.name(0, 5);
+            due("no rows", x.lay(0), NONE);
+            tell(x, 2, "times 5(times 5(times 8(turn 1;)))");
+            due("the longest", x.where(2, 0, 1, false) + x.where(2, 0, 1, true), 4);
         });
         sentence(8, "NONE: no such one (fault() tells 0)", x -> {
             int[] none = {-1, 4, Integer.MIN_VALUE, Integer.MAX_VALUE};
@@ -213,6 +246,16 @@ abstract class BoundaryText extends Sentences {
             faulty(x, "timess 1()", 1, 0);
             faulty(x, "turn 1;turnturn 1;", 1, 7);
             faulty(x, "z", 1, 0);
+        });
+        sentence(8, "KEYWORDS (lift, to, if, swap, turn, times) or none", x -> {
+            String[] starts = {"", "lift 0 ", "lift 0 to 1 ", "", "", ""};
+            String[] words = {"lift", "to", "if", "swap", "turn", "times"};
+            for (int w = 0; w < words.length; w++) {
+                for (int i = 0; i < words[w].length(); i++) {
+                    String other = words[w].substring(0, i) + "x" + words[w].substring(i + 1);
+                    faulty(x, starts[w] + other + " 0", 1, starts[w].length());
+                }
+            }
         });
         sentence(8, "letters as many as stand together", x -> {
             for (String sign : new String[] {"a", "z", "A", "Z"}) {
@@ -372,6 +415,10 @@ abstract class BoundaryText extends Sentences {
             faulty(x, "lift 0 1;", 1, 7);
             faulty(x, "lift to 1;", 1, 5);
             faulty(x, "lift 0 to to 1;", 1, 10);
+            faulty(x, "lift 0 if 1;", 1, 7);
+            faulty(x, "lift 0 to 1 to 0;", 1, 12);
+            faulty(x, "swap 0 1 to 0;", 1, 9);
+            faulty(x, "swap 0 if 1;", 1, 7);
             faulty(x, "lift 0 to 1 0;", 1, 12);
             faulty(x, "lift 0 to 1 if if 0;", 1, 15);
             faulty(x, "lift 0 to 1 if 0 if 0;", 1, 17);

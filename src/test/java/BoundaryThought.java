@@ -400,6 +400,15 @@ abstract class BoundaryThought extends Sentences {
             wants(x, 1, 1, 2, 3);
             due("strand 2 ahead of 1", x.dropped(0, 1, 0), 1);
             due("strand 2", x.dropped(0, 1, 1), 2);
+            songs(x, "lift 0 to 2;swap 0 2;", "lift 1 to 3;swap 0 3;");
+            wants(x, 1, 2, 1, 3);
+            due("0 ahead of 2, and 1 ahead of 1", x.dropped(0, 2, 0), 2);
+            due("the least strand", x.dropped(0, 2, 1), 0);
+            due("though its t is greater", x.dropped(0, 2, 2), 2);
+            wants(x, 1, 3, 1, 2);
+            due("0 ahead of 1, and 1 ahead of 2", x.dropped(1, 2, 0), 2);
+            due("the least strand", x.dropped(1, 2, 1), 0);
+            due("its t", x.dropped(1, 2, 2), 1);
         });
         sentence(20, "none dropped, told as STRAND NONE, t n and 1, is asked first, and counts", x -> {
             due("an empty song: none, and each strand by each t", x.dropped(0, 30, 0), 1 + 8 * 30);
