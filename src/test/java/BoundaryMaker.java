@@ -126,6 +126,14 @@ abstract class BoundaryMaker extends Sentences {
             due("colour 0 is one, too", x.lay(0), 1);
             x.colour(0, 0);
             due("it has it", x.lay(0), 0);
+            x.stool(16);
+            songs(x, "lift 0 to 15;");
+            x.name(0, 9);
+            due("the first of sixteen", x.lay(0), 1);
+            x.name(15, 9);
+            due("and the last", x.lay(0), 2);
+            x.name(0, NONE);
+            due("the last alone", x.lay(0), 1);
         });
         sentence(23, "NONE if a STRAND would need two, or rows are not reached.", x -> {
             x.stool(4);

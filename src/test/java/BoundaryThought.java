@@ -67,11 +67,11 @@ abstract class BoundaryThought extends Sentences {
             due("5040 by colours", x.back(0, 1), 5040);
         });
         sentence(15, "BACK; NONE if it takes more, one can't be, or another what.", x -> {
-            x.stool(15);
-            colours(x, 0, 0, 0, 1, 0, 1, 2, 2, 1, 0, 1, 1, 0, 1, 0);
-            songs(x, "turn 1;turn 12;turn 1;lift 3 to 1 if 1;swap 13 9 if 2;");
-            x.sing(0, 50);
-            due("5042 by colours", x.back(0, 1), NONE);
+            x.stool(16);
+            colours(x, 3, 0, 2, 2, 3, 1, 2, 1, 3, 2, 0, 0, 3, 3, 1, 3);
+            songs(x, "lift 12 to 9 if 3;swap 0 14 if 2;turn 15;");
+            due("5041 by colours", x.back(0, 1), NONE);
+            due("more by strands", x.back(0, 0), NONE);
             x.stool(16);
             colours(x, 0, 2, 4, 0, 0, 1, 2, 1, 3, 2, 0, 2, 2, 1, 0, 3);
             songs(x, "turn 13;lift 12 to 6 if 3;lift 8 to 5 if 4;");
@@ -253,6 +253,13 @@ abstract class BoundaryThought extends Sentences {
             due("two lifts", x.fewest(0), 2);
             due("the least a", x.fewest(1), 0);
             due("the least b", x.fewest(2), 1);
+            colours(x, 1, 2, 3, 0);
+            wants(x, 0, 1, 2, 3);
+            due("the last alone", x.fewest(1), 3);
+            due("to the first", x.fewest(2), 0);
+            wants(x, 1, 0, 2, 3);
+            due("the last alone", x.fewest(1), 3);
+            due("between", x.fewest(2), 1);
         });
         sentence(18, "NONE if it can't", x -> {
             x.stool(7);
